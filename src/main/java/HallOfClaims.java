@@ -211,7 +211,10 @@ public final class HallOfClaims {
 
     public int ideal() {
         strife.reckon(now);
-        return selection.idealOf(now.heard, strife);
+        selection.select(PREFERRED, now.heard, strife);
+        int common = selection.common();
+        selection.select(ADMISSIBLE, now.heard, strife);
+        return selection.greatestWithin(common);
     }
 
     public int game(int claim, int what) {
@@ -429,12 +432,13 @@ public final class HallOfClaims {
             return bytes & ~(255L << shift) | (value & 255L) << shift;
         }
 
-        static boolean has(long relation, int from, int to) {
-            return contains(get(relation, from), to);
+        /** The relation that goes from one claim to one and nowhere else. */
+        static long pair(int from, int to) {
+            return 1L << (8 * from + to);
         }
 
-        static long flipped(long relation, int from, int to) {
-            return with(relation, from, get(relation, from) ^ 1 << to);
+        static boolean has(long relation, int from, int to) {
+            return (relation & pair(from, to)) != 0;
         }
 
         static boolean contains(int set, int claim) {
@@ -466,7 +470,7 @@ public final class HallOfClaims {
             for (int from = 0; from < MOST_CLAIMS; from++) {
                 for (int to = 0; to < MOST_CLAIMS; to++) {
                     if (has(relation, from, to)) {
-                        turned = flipped(turned, to, from);
+                        turned |= pair(to, from);
                     }
                 }
             }
@@ -548,7 +552,8 @@ public final class HallOfClaims {
             int claim = size;
             size++;
             heard |= 1 << claim;
-            recast(claim, kind, figure);
+            cast = Bytes.with(cast, claim, kind);
+            figures = Bytes.with(figures, claim, figure);
             voices = Bytes.with(voices, claim, speaker);
             return claim;
         }
@@ -563,11 +568,11 @@ public final class HallOfClaims {
         }
 
         void flipAttack(int from, int to) {
-            attacks = Bytes.flipped(attacks, from, to);
+            attacks ^= Bytes.pair(from, to);
         }
 
         void flipSupport(int from, int to) {
-            supports = Bytes.flipped(supports, from, to);
+            supports ^= Bytes.pair(from, to);
         }
 
         int claimsOf(int speaker) {
@@ -639,38 +644,28 @@ public final class HallOfClaims {
             long found = 0;
             for (int from = 0; from < hall.size; from++) {
                 for (int to = 0; to < hall.size; to++) {
-                    if (hall.hears(from) && hall.hears(to) && isHit(hall, from, to)) {
-                        found = Bytes.flipped(found, from, to);
+                    int lead = hall.figureOf(from) - hall.figureOf(to);
+                    boolean areLet = letHit(hall.kindOf(from), hall.kindOf(to), lead);
+                    if (areLet && Bytes.has(hall.attacks, from, to)) {
+                        found |= Bytes.pair(from, to);
                     }
                 }
+                if (hall.kindOf(from) == DOUBT) {
+                    found |= Bytes.pair(from, from);
+                }
             }
-            return found;
+            return Bytes.within(found, hall.heard);
         }
 
-        private static boolean isHit(Hall hall, int from, int to) {
-            if (from == to) {
-                return hall.kindOf(from) == DOUBT;
-            }
-            return Bytes.has(hall.attacks, from, to) && letsHit(hall, from, to) && letsBeHit(hall, from, to);
-        }
-
-        private static boolean letsHit(Hall hall, int from, int to) {
-            int kind = hall.kindOf(from);
-            if (kind == WEAK || kind == DOUBT) {
-                return hall.figureOf(to) <= hall.figureOf(from);
-            }
-            return kind != ASIDE;
-        }
-
-        private static boolean letsBeHit(Hall hall, int from, int to) {
-            int kind = hall.kindOf(to);
-            if (kind == FACT && hall.kindOf(from) != FACT) {
+        /** Whether both kinds let it, where the hitter's figure leads that of its target by so much. */
+        private static boolean letHit(int hitter, int target, int lead) {
+            if (hitter == ASIDE || target == FACT && hitter != FACT) {
                 return false;
             }
-            if (kind == FIRM || kind == FACT) {
-                return hall.figureOf(from) >= hall.figureOf(to);
+            if ((hitter == WEAK || hitter == DOUBT) && lead < 0) {
+                return false;
             }
-            return true;
+            return target != FIRM && target != FACT || lead >= 0;
         }
     }
 
@@ -755,7 +750,7 @@ public final class HallOfClaims {
                 case ADMISSIBLE: return isAdmissible(set);
                 case COMPLETE: return isComplete(set);
                 case PREFERRED: return isAdmissible(set);
-                case STABLE: return isStable(set);
+                case STABLE: return isStable(set, heard, defeats);
                 case SEMI: return isComplete(set);
                 default: return false;
             }
@@ -766,15 +761,26 @@ public final class HallOfClaims {
         }
 
         private boolean isAdmissible(int set) {
-            return isFree(set) && (Bytes.reach(defeaters, set) & ~Bytes.reach(defeats, set)) == 0;
+            int beaten = Bytes.reach(defeats, set);
+            return (beaten & set) == 0 && (Bytes.reach(defeaters, set) & ~beaten) == 0;
         }
 
         private boolean isComplete(int set) {
             return isAdmissible(set) && (defendedBy(set) & ~set) == 0;
         }
 
-        private boolean isStable(int set) {
+        private static boolean isStable(int set, int heard, long defeats) {
             return Bytes.reach(defeats, set) == (heard & ~set);
+        }
+
+        static int stableSets(int heard, long defeats) {
+            int found = 0;
+            for (int set = 0; set < ALL_SETS; set++) {
+                if ((set & ~heard) == 0 && isStable(set, heard, defeats)) {
+                    found++;
+                }
+            }
+            return found;
         }
 
         private int defendedBy(int set) {
@@ -870,27 +876,26 @@ public final class HallOfClaims {
             return NONE;
         }
 
-        int idealOf(int hearing, Defeats strife) {
-            select(PREFERRED, hearing, strife);
-            int common = hearing;
+        /** The claims that are in each of the sets; all that are heard, if there are no sets. */
+        int common() {
+            int common = heard;
             for (int set = 0; set < chosen.length; set++) {
                 if (chosen[set]) {
                     common &= set;
                 }
             }
+            return common;
+        }
+
+        int greatestWithin(int limit) {
             int greatest = 0;
             for (int set = 0; set < chosen.length; set++) {
                 boolean isGreater = Integer.bitCount(set) > Integer.bitCount(greatest);
-                if ((set & ~common) == 0 && isGreater && isAdmissible(set)) {
+                if (chosen[set] && (set & ~limit) == 0 && isGreater) {
                     greatest = set;
                 }
             }
             return greatest;
-        }
-
-        int stableOf(int hearing, Defeats strife) {
-            select(STABLE, hearing, strife);
-            return size();
         }
     }
 
@@ -1192,9 +1197,9 @@ public final class HallOfClaims {
                 return false;
             }
             if (arrow == '>') {
-                draft.attacks |= Bytes.flipped(0, from, to);
+                draft.attacks |= Bytes.pair(from, to);
             } else {
-                draft.supports |= Bytes.flipped(0, from, to);
+                draft.supports |= Bytes.pair(from, to);
             }
             return true;
         }
@@ -1277,7 +1282,6 @@ public final class HallOfClaims {
         private final Hall draft = new Hall();
         private final Defeats strife = new Defeats();
         private final Turns settled = new Turns();
-        private final Sorts selection = new Sorts();
 
         private int draftIn() {
             strife.reckon(draft);
@@ -1287,7 +1291,7 @@ public final class HallOfClaims {
 
         private int draftStable() {
             strife.reckon(draft);
-            return selection.stableOf(draft.heard, strife);
+            return Sorts.stableSets(draft.heard, strife.defeats);
         }
 
         /** How many changes there are, or the first. */
@@ -1297,23 +1301,18 @@ public final class HallOfClaims {
             int found = 0;
             for (int from = 0; from < hall.size; from++) {
                 for (int to = 0; to < hall.size; to++) {
-                    boolean isPair = from != to && hall.hears(from) && hall.hears(to);
-                    if (isPair && isInChanged(claim, from, to) != wasIn) {
-                        if (first) {
+                    if (from != to && hall.hears(from) && hall.hears(to)) {
+                        draft.flipAttack(from, to);
+                        boolean isIn = Bytes.contains(draftIn(), claim);
+                        draft.flipAttack(from, to);
+                        if (isIn != wasIn && first) {
                             return 10 * from + to;
                         }
-                        found++;
+                        found += isIn != wasIn ? 1 : 0;
                     }
                 }
             }
             return first ? NONE : found;
-        }
-
-        private boolean isInChanged(int claim, int from, int to) {
-            draft.flipAttack(from, to);
-            boolean isIn = Bytes.contains(draftIn(), claim);
-            draft.flipAttack(from, to);
-            return isIn;
         }
 
         private void draftWithout(Hall hall, int gone) {
@@ -1329,18 +1328,15 @@ public final class HallOfClaims {
         int spared(Hall hall) {
             for (int many = 0; many <= MOST_CLAIMS; many++) {
                 for (int gone = 0; gone < ALL_SETS; gone++) {
-                    boolean isTried = Integer.bitCount(gone) == many && (gone & ~hall.heard) == 0;
-                    if (isTried && isSettledWithout(hall, gone)) {
-                        return gone;
+                    if (Integer.bitCount(gone) == many && (gone & ~hall.heard) == 0) {
+                        draftWithout(hall, gone);
+                        if (draftStable() > 0) {
+                            return gone;
+                        }
                     }
                 }
             }
             return hall.heard;
-        }
-
-        private boolean isSettledWithout(Hall hall, int gone) {
-            draftWithout(hall, gone);
-            return draftStable() > 0;
         }
 
         /** The odds count in parts of this: t as often as there are claims that may lack. */
@@ -1386,7 +1382,8 @@ public final class HallOfClaims {
             int fitting = 0;
             for (int kind = CLAIM; kind < KINDS; kind++) {
                 draft.recast(claim, kind, hall.figureOf(claim));
-                if (isToldBy(row)) {
+                draftIn();
+                if (row.beginsLabels(draft, settled)) {
                     fitting |= 1 << kind;
                 }
             }
@@ -1398,16 +1395,12 @@ public final class HallOfClaims {
             int fitting = 0;
             for (int figure = 0; figure < DIGITS; figure++) {
                 draft.recast(claim, hall.kindOf(claim), figure);
-                if (isToldBy(row)) {
+                draftIn();
+                if (row.beginsLabels(draft, settled)) {
                     fitting |= 1 << figure;
                 }
             }
             return fitting;
-        }
-
-        private boolean isToldBy(Row row) {
-            draftIn();
-            return row.beginsLabels(draft, settled);
         }
 
         /** Of halls by lot, together, how many stable sets there are or how many claims are in. */
