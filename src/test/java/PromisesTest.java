@@ -162,6 +162,13 @@ public final class PromisesTest {
         Checks.due("3: as it was, HEARD", x.count(1), 3);
         Checks.due("3: as it was, KIND", x.claim(1, 0), 3);
         Checks.due("3: as it was, ATTACKS", x.claim(0, 4), 2);
+        Checks.due("3: nor behind it", Checks.tell(x, "c:31;"), 1);
+        Checks.due("3: CLAIMS still", x.count(0), 3);
+        x.attacks(0, 1);
+        x.mode(2);
+        Checks.due("3: to all that other calls did", Checks.tell(x, "c>a;"), 1);
+        Checks.due("3: ATTACKS then", x.count(2), 2);
+        Checks.due("3: MODE then", x.count(4), 2);
         String full = "*000;*000;*000;*000;*000;*000;*000;*000;" + "a>b>c>d>e>f>g>h>a>b>c>d>e>f>g>h>a>b>c>d>e>f>g>h>a>b>c>d;";
         Checks.due("3: 96 letters", full.length(), 96);
         Checks.due("3: ATTACKS of all in a ring", Checks.told(full).count(2), 8);
@@ -309,7 +316,8 @@ public final class PromisesTest {
         HallOfClaims x = Checks.told("*400;*000;b>a;a!;");
         Checks.due("10: DOUBT not HEARD HITS nothing", x.claim(0, 6), 0);
         Checks.due("10: none HITS one that isn't HEARD", x.claim(1, 6), 0);
-        Checks.due("10: HEARD", x.claim(0, 3), 0);
+        Checks.due("10: not HEARD", x.claim(0, 3), 0);
+        Checks.due("10: HEARD", x.claim(1, 3), 1);
         Checks.due("10: nobody", x.claim(2, 10), -1);
         Checks.due("10: nobody below", x.claim(-1, 0), -1);
         Checks.due("10: what", x.claim(0, 10), -2);
@@ -340,6 +348,8 @@ public final class PromisesTest {
         x.turns(1);
         Checks.due("10: LEADS by HEARD ones alone", x.claim(0, 7), 0);
         Checks.due("10: but SUPPORTS stays", x.claim(0, 5), 2);
+        HallOfClaims by = Checks.told("*000;*000;*000;*000;b+a+d+c;");
+        Checks.due("10: LEADS by the first and the last", by.claim(1, 7), 13);
         HallOfClaims ring = Checks.told("*000;*000;*000;a+b+a;b>c;c>a;");
         Checks.due("10: LEADS to itself", ring.claim(0, 7), 3);
         Checks.due("10: HITS by no SUPPORT", ring.claim(0, 6), 0);
@@ -367,6 +377,14 @@ public final class PromisesTest {
         Checks.due("12: far", x.turn(FAR_OUT), -9);
         Checks.due("12: below", x.turn(-2), -4);
         Checks.due("12: far below", x.turn(FAR_BELOW), -4);
+        HallOfClaims alike = Checks.told("*030;*030;*040;");
+        Checks.due("12: the greatest of a new hall", alike.turn(0), 2);
+        Checks.due("12: then the least", alike.turn(1), 0);
+        alike.kind(0, 0, 9);
+        Checks.due("12: then by its FIGURE", alike.turn(0), 0);
+        alike.attacks(1, 0);
+        Checks.due("12: then not any more", alike.turn(0), 2);
+        Checks.due("12: but behind it", alike.turn(2), -9);
         HallOfClaims y = Checks.told("*000;*000;*000;a>b>a;b>c;c!;");
         Checks.due("11: neither", y.label(0), 2);
         Checks.due("11: not HEARD", y.label(2), 3);
@@ -404,6 +422,12 @@ public final class PromisesTest {
         sets(semi, 3, 1, 2);
         sets(semi, 4);
         sets(semi, 5, 2);
+        semi.turns(0);
+        sets(semi, 3, 2);
+        sets(semi, 5, 2);
+        semi.attacks(3, 1);
+        sets(semi, 3, 0);
+        sets(semi, 5, 0);
         HallOfClaims hidden = Checks.told("*000;*000;*000;a>b;c!;");
         sets(hidden, 0, 1, 2, 0);
         sets(hidden, 4, 1);
@@ -430,6 +454,7 @@ public final class PromisesTest {
         Checks.due("14: all", x.among(3, 3, 1), 1);
         Checks.due("14: none", x.among(3, 2, 0), 0);
         Checks.due("14: FREE", x.among(0, 2, 0), 1);
+        Checks.due("14: the only one has it", Checks.told("*000;").among(3, 0, 1), 1);
         x.claims(4, 0, 0);
         Checks.due("14: there is none", x.among(4, 3, 1), 0);
         Checks.due("14: nor some", x.among(4, 3, 0), 0);
@@ -450,6 +475,7 @@ public final class PromisesTest {
         HallOfClaims y = Checks.told("*000;*400;a>b>a;");
         Checks.due("15: IDEAL", y.ideal(), 1);
         Checks.due("15: not GROUNDED", y.turn(-1), 0);
+        Checks.due("15: of no PREFERRED set all", Checks.told("*000;*000;*000;a>b>a;").ideal(), 4);
         Checks.due("15: with what is GROUNDED", Checks.told("*000;*400;*000;a>b>a;").ideal(), 5);
     }
 
@@ -491,6 +517,10 @@ public final class PromisesTest {
         Checks.due("17: nobody below", y.answer(0, -1), -1);
         Checks.due("17: THE GAME isn't WON", y.answer(1, 3), -9);
         // To b there is an answer, but to e there is none.
+        HallOfClaims first = Checks.told("*000;*000;*000;*000;b>c;a>b;d>b;");
+        Checks.due("17: the first of all", first.answer(2, 1), 0);
+        first.attacks(3, 0);
+        Checks.due("17: not the first of all", first.answer(2, 1), 3);
         HallOfClaims half = Checks.told("*000;*000;*000;*000;b>a;c>b;d>a;");
         Checks.due("17: WON as a whole", half.answer(0, 1), -9);
         half.turns(1);
@@ -548,6 +578,10 @@ public final class PromisesTest {
         Checks.due("20: HEARD stay", x.count(1), 31);
         x.turns(0);
         Checks.due("20: only HEARD ones", x.spare(1), 8);
+        // Without c the hall is settled; without a and b too, since d is IN then.
+        HallOfClaims fewer = Checks.told("*000;*000;*400;*000;a>d;b>d;d>c;");
+        Checks.due("20: fewest ahead of least", fewer.spare(1), 4);
+        Checks.due("20: fewest", fewer.spare(0), 1);
         HallOfClaims doubts = Checks.told("*400;*400;*400;*400;*400;*400;*400;*400;");
         Checks.due("20: all", doubts.spare(1), 255);
         Checks.due("20: all of them", doubts.spare(0), 8);
@@ -715,6 +749,7 @@ public final class PromisesTest {
         Checks.due("26: greatest FIGURE still", x.speakers(2, 3), 2);
         Checks.due("26: REFUSALS", x.count(11), 3);
         HallOfClaims last = Checks.told("*009;*000;");
+        Checks.due("26: greatest FIGURE of the first", Checks.told("*070;*020;*031;").speakers(0, 3), 7);
         Checks.due("26: SPEAKER 9", last.speakers(1, 0), 9);
         Checks.due("26: FIGURE 0", last.speakers(1, 3), 0);
     }
