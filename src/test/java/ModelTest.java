@@ -9,6 +9,7 @@ import java.util.Random;
 /** Long runs of calls, drawn with fixed seeds, held against the Model; wild numbers among them. */
 public final class ModelTest {
     private static final int RUNS = 400;
+    private static final int DISPUTES = 3000;
     private static final int CALLS = 512;
     private static final int[] WILD = {
         -2, -1, 8, 9, 10, 11, 16, 20, 21, 255, 256, -1000, 1 << 20, Integer.MAX_VALUE, Integer.MIN_VALUE,
@@ -29,6 +30,9 @@ public final class ModelTest {
     public static void main(String[] args) throws ReflectiveOperationException {
         for (int run = 0; run < RUNS; run++) {
             new ModelTest(run).run(run);
+        }
+        for (int run = 0; run < DISPUTES; run++) {
+            new ModelTest(run).dispute();
         }
         Checks.end();
     }
@@ -51,6 +55,35 @@ public final class ModelTest {
                 call(run, method, arguments(method));
             }
         }
+    }
+
+    /** Eight claims of which the last few stand alone, so that long games are won at times. */
+    private void dispute() {
+        int alone = 1 + random.nextInt(2);
+        int odds = 3 + random.nextInt(3);
+        for (int i = 0; i < 8; i++) {
+            both("claims", 0, random.nextInt(3), 0);
+        }
+        int[] places = random.ints(0, 8).distinct().limit(8).toArray();
+        for (int from = 0; from < 8; from++) {
+            for (int to = 0; to < 8 - alone; to++) {
+                if (from != to && random.nextInt(from < 8 - alone ? odds : 7) == 0) {
+                    both("attacks", places[from], places[to]);
+                }
+            }
+        }
+        for (int claim = 0; claim < 8; claim++) {
+            both("game", claim, 0);
+            both("game", claim, 1);
+            for (int other = 0; other < 8; other++) {
+                both("answer", claim, other);
+            }
+        }
+        for (int sort = 0; sort < 6; sort++) {
+            both("sets", sort, -1);
+            both("sets", sort, 0);
+        }
+        both("ideal");
     }
 
     /** Claims and what is between them, so that the runs don't look at empty halls. */
