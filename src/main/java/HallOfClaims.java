@@ -41,8 +41,8 @@ public final class HallOfClaims {
 
     private final Hall now = new Hall();
     private final Hall kept = new Hall();
-    private final Letters told = new Letters();
-    private final Row numbers = new Row();
+    private final Reader reader = new Reader();
+    private final Row numbers = new Row(12);
     private final Defeats strife = new Defeats();
     private final Turns settled = new Turns();
     private final Sorts selection = new Sorts();
@@ -58,14 +58,16 @@ public final class HallOfClaims {
         if (c < 0) {
             return refuse(BELOW);
         }
-        if (c > 255 || told.isFull()) {
+        if (c > 255 || reader.letters.isFull()) {
             return refuse(ROOM);
         }
-        return told.add(c);
+        return reader.letters.add(c);
     }
 
     public int hall() {
-        return told.become(now);
+        int answer = reader.read(now);
+        reader.letters.length = 0;
+        return answer;
     }
 
     public int claims(int kind, int figure, int speaker) {
@@ -319,7 +321,7 @@ public final class HallOfClaims {
 
     public int judge() {
         strife.reckon(now);
-        int judged = numbers.judgedIn(now, strife);
+        int judged = Labels.judged(numbers, now, strife.defeaters);
         numbers.length = 0;
         return judged;
     }
@@ -387,7 +389,7 @@ public final class HallOfClaims {
             case 3: return Long.bitCount(now.supports);
             case 4: return now.mode;
             case 5: return numbers.length;
-            case 6: return told.length;
+            case 6: return reader.letters.length;
             default: return what >= 11 && what <= 16 ? refusals[what - 10] : NONE;
         }
     }
@@ -499,6 +501,32 @@ public final class HallOfClaims {
                 }
             }
             return closed;
+        }
+    }
+
+    /** Numbers one behind the other, as many as there is room for. */
+    private static final class Row {
+        private final int[] numbers;
+        int length = 0;
+
+        Row(int room) {
+            numbers = new int[Math.max(0, room)];
+        }
+
+        boolean isFull() {
+            return length >= numbers.length;
+        }
+
+        int add(int number) {
+            if (length >= 0 && length < numbers.length) {
+                numbers[length] = number;
+                length++;
+            }
+            return length;
+        }
+
+        int at(int place, int lacking) {
+            return place >= 0 && place < length && place < numbers.length ? numbers[place] : lacking;
         }
     }
 
@@ -1016,8 +1044,8 @@ public final class HallOfClaims {
         }
     }
 
-    /** The letters that have come, and how they become a hall. */
-    private static final class Letters {
+    /** How letters become a hall. */
+    private static final class Reader {
         private static final int START = 0;
         private static final int THREE_DIGITS = 1;
         private static final int TWO_DIGITS = 2;
@@ -1028,43 +1056,24 @@ public final class HallOfClaims {
         private static final int CHAIN = 7;
         private static final int BAD = 8;
 
-        private final int[] text = new int[96];
+        final Row letters = new Row(96);
         private final Hall draft = new Hall();
-        int length = 0;
 
-        boolean isFull() {
-            return length >= text.length;
-        }
-
-        int add(int letter) {
-            if (length >= 0 && length < text.length) {
-                text[length] = letter;
-                length++;
-            }
-            return length;
-        }
-
-        private int at(int place) {
-            return place >= 0 && place < length && place < text.length ? text[place] : -1;
-        }
-
-        int become(Hall hall) {
+        int read(Hall hall) {
             int bad = badPlace();
-            int answer = bad >= 0 ? -1000 - bad : applied(hall);
-            length = 0;
-            return answer;
+            return bad >= 0 ? -1000 - bad : applied(hall);
         }
 
         /** The place with which no hall can go on, or -1. */
         private int badPlace() {
             int step = START;
-            for (int place = 0; place < length; place++) {
-                step = stepBy(step, at(place));
+            for (int place = 0; place < letters.length; place++) {
+                step = stepBy(step, letters.at(place, -1));
                 if (step == BAD) {
                     return place;
                 }
             }
-            return step == START && length > 0 ? -1 : length;
+            return step == START && letters.length > 0 ? -1 : letters.length;
         }
 
         private static int stepBy(int step, int letter) {
@@ -1122,8 +1131,8 @@ public final class HallOfClaims {
             draft.take(hall);
             int statements = 0;
             int start = 0;
-            for (int place = 0; place < length; place++) {
-                if (at(place) == ';') {
+            for (int place = 0; place < letters.length; place++) {
+                if (letters.at(place, -1) == ';') {
                     if (!apply(start, place)) {
                         return -2000 - start;
                     }
@@ -1136,7 +1145,7 @@ public final class HallOfClaims {
         }
 
         private boolean apply(int start, int end) {
-            int first = at(start);
+            int first = letters.at(start, -1);
             if (first == '*') {
                 return applyNew(start);
             }
@@ -1147,7 +1156,7 @@ public final class HallOfClaims {
             if (!draft.knows(claim)) {
                 return false;
             }
-            int second = at(start + 1);
+            int second = letters.at(start + 1, -1);
             if (second == ':') {
                 return applyKind(claim, digitAt(start + 2), digitAt(start + 3));
             }
@@ -1185,7 +1194,7 @@ public final class HallOfClaims {
 
         private boolean applyChain(int start, int end) {
             for (int place = start + 1; place < end; place += 2) {
-                if (!applyArrow(claimAt(place - 1), at(place), claimAt(place + 1))) {
+                if (!applyArrow(claimAt(place - 1), letters.at(place, -1), claimAt(place + 1))) {
                     return false;
                 }
             }
@@ -1205,70 +1214,51 @@ public final class HallOfClaims {
         }
 
         private int digitAt(int place) {
-            return at(place) - '0';
+            return letters.at(place, -1) - '0';
         }
 
         private int claimAt(int place) {
-            return at(place) - 'a';
+            return letters.at(place, -1) - 'a';
         }
     }
 
-    /** The row of numbers that tell labels. */
-    private static final class Row {
+    /** Labels that a row of numbers tells. */
+    private static final class Labels {
         private static final int LACKING = 9;
 
-        private final int[] numbers = new int[12];
-        int length = 0;
-
-        boolean isFull() {
-            return length >= numbers.length;
-        }
-
-        int add(int number) {
-            if (length >= 0 && length < numbers.length) {
-                numbers[length] = number;
-                length++;
-            }
-            return length;
-        }
-
-        private int at(int claim) {
-            return claim >= 0 && claim < length && claim < numbers.length ? numbers[claim] : LACKING;
-        }
-
-        boolean beginsLabels(Hall hall, Turns settled) {
-            if (length > hall.size) {
+        /** Whether the labels begin as the row tells them. */
+        static boolean beginSo(Row row, Hall hall, Turns settled) {
+            if (row.length > hall.size) {
                 return false;
             }
-            for (int claim = 0; claim < length; claim++) {
-                if (at(claim) != settled.labelOf(hall, claim)) {
+            for (int claim = 0; claim < row.length; claim++) {
+                if (row.at(claim, LACKING) != settled.labelOf(hall, claim)) {
                     return false;
                 }
             }
             return true;
         }
 
-        int judgedIn(Hall hall, Defeats strife) {
+        static int judged(Row row, Hall hall, long defeaters) {
             for (int claim = 0; claim < hall.size; claim++) {
-                if (at(claim) != dueOf(claim, hall, strife.defeaters)) {
+                int due = hall.hears(claim) ? dueBy(row, Bytes.get(defeaters, claim)) : UNHEARD;
+                if (row.at(claim, LACKING) != due) {
                     return claim;
                 }
             }
-            return length > hall.size ? hall.size : NONE;
+            return row.length > hall.size ? hall.size : NONE;
         }
 
-        private int dueOf(int claim, Hall hall, long defeaters) {
-            if (!hall.hears(claim)) {
-                return UNHEARD;
-            }
-            int against = Bytes.get(defeaters, claim);
+        /** What is due to one with these defeaters. */
+        private static int dueBy(Row row, int against) {
             boolean allOut = true;
-            for (int other = 0; other < hall.size; other++) {
+            for (int other = 0; other < MOST_CLAIMS; other++) {
                 if (Bytes.contains(against, other)) {
-                    if (at(other) == IN) {
+                    int number = row.at(other, LACKING);
+                    if (number == IN) {
                         return OUT;
                     }
-                    allOut = allOut && at(other) == OUT;
+                    allOut = allOut && number == OUT;
                 }
             }
             return allOut ? IN : UNSETTLED;
@@ -1383,7 +1373,7 @@ public final class HallOfClaims {
             for (int kind = CLAIM; kind < KINDS; kind++) {
                 draft.recast(claim, kind, hall.figureOf(claim));
                 draftIn();
-                if (row.beginsLabels(draft, settled)) {
+                if (Labels.beginSo(row, draft, settled)) {
                     fitting |= 1 << kind;
                 }
             }
@@ -1396,7 +1386,7 @@ public final class HallOfClaims {
             for (int figure = 0; figure < DIGITS; figure++) {
                 draft.recast(claim, hall.kindOf(claim), figure);
                 draftIn();
-                if (row.beginsLabels(draft, settled)) {
+                if (Labels.beginSo(row, draft, settled)) {
                     fitting |= 1 << figure;
                 }
             }
