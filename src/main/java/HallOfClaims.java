@@ -1268,6 +1268,7 @@ public final class HallOfClaims {
     /** What would be in halls that are like the hall but for a little; the hall itself stays. */
     private static final class Trials {
         private static final int MAY_LACK = 31;
+        private static final int ALL_BUT_SIGN = 0x7fffffff;
 
         private final Hall draft = new Hall();
         private final Defeats strife = new Defeats();
@@ -1413,7 +1414,7 @@ public final class HallOfClaims {
                 for (int to = 0; to < draft.size; to++) {
                     if (from != to) {
                         state = state * 1664525 + 1013904223;
-                        if ((state & Integer.MAX_VALUE) / 256 % 4 == 0) {
+                        if ((state & ALL_BUT_SIGN) / 256 % 4 == 0) {
                             draft.flipAttack(from, to);
                         }
                     }
