@@ -102,6 +102,8 @@ public final class FaceTest {
         for (String sign : signs) {
             Checks.holds("no " + sign, !code.contains(sign));
         }
+        Checks.holds("of the library only functions of numbers",
+                !Pattern.compile("\\b(Integer|Long|Math)\\.\\w+\\b(?!\\()").matcher(code).find());
         Matcher made = Pattern.compile("\\bnew\\b").matcher(code);
         while (made.find()) {
             int begins = code.lastIndexOf('\n', made.start()) + 1;

@@ -11,6 +11,7 @@ public final class TermsTest {
         noClaims();
         claimsAndPairs();
         kindsThatLet();
+        kindsOfEight();
         leads();
         defeats();
         turns();
@@ -20,6 +21,7 @@ public final class TermsTest {
         sensesOfLetters();
         longLetters();
         games();
+        gamesOfSaidOnes();
         gamesAndLabels();
         changes();
         spare();
@@ -107,6 +109,18 @@ public final class TermsTest {
         }
     }
 
+    /** Where there is no room for another one, what is of the first CLAIM is of no ninth one. */
+    private static void kindsOfEight() {
+        HallOfClaims doubt = Checks.told("*400;*000;*000;*000;*000;*000;*000;*000;");
+        Checks.due("a DOUBT HITS itself", doubt.claim(0, 6), 1);
+        for (int claim = 1; claim < 8; claim++) {
+            Checks.due("no other one HITS", doubt.claim(claim, 6), 0);
+        }
+        HallOfClaims firm = Checks.told("*250;*090;*000;*090;*000;*090;*000;*090;c>a;e>a;g>a;");
+        Checks.due("none HITS a FIRM one above it", firm.claim(0, 9), 0);
+        Checks.due("so it is IN", firm.label(0), 1);
+    }
+
     private static void leads() {
         HallOfClaims chain = Checks.told(EIGHT + "a+b+c+d+e+f+g+h;");
         for (int claim = 0; claim < 8; claim++) {
@@ -120,6 +134,9 @@ public final class TermsTest {
         Checks.due("one that isn't HEARD LEADS to none", chain.claim(4, 7), 0);
         Checks.due("none LEADS to it, nor by it", chain.claim(2, 7), 8);
         Checks.due("but from behind it", chain.claim(5, 7), 207);
+        HallOfClaims told = Checks.told("*000;*000;*000;a+b;b+c;a+b+a;");
+        Checks.due("a SUPPORT told again is there", told.claim(0, 5), 2);
+        Checks.due("and no other one is", told.count(3), 3);
         HallOfClaims back = Checks.told(EIGHT + "h+g+f+e+d+c+b+a;");
         Checks.due("LEADS from the last", back.claim(7, 7), 127);
         Checks.due("LEADS from the first", back.claim(0, 7), 0);
@@ -316,6 +333,8 @@ public final class TermsTest {
         Checks.due("CON may repeat", again.game(0, 0), -9);
         Checks.due("and so there is no tree", again.game(0, 1), 0);
         Checks.due("and no ANSWER", again.answer(0, 1), -9);
+        HallOfClaims ring = Checks.told("*000;*000;*000;b>a;c>b;a>c;");
+        Checks.due("CON may say what PRO said", ring.game(0, 0), -9);
         again.claims(0, 0, 0);
         again.attacks(3, 1);
         // By d at once, or by c and then d.
@@ -341,6 +360,14 @@ public final class TermsTest {
         // b may be answered by c, d or e, and c by one each: all that CON says is answered apart.
         HallOfClaims rows = Checks.told("*000;*000;*000;*000;*000;*000;b>a;c>a;d>b;e>b;", "d>c;e>c;f>c;");
         Checks.due("TREES: ways to answer b times ways to answer c", rows.game(0, 1), 6);
+        // Three to answer b, by DEPTHS 1, 3 and 3: c at once, d and e by way of another.
+        HallOfClaims three = Checks.told("*000;*000;*000;*000;*000;*000;*000;*000;c>b>a;d>b;e>b;f>d;f>e;g>f;");
+        Checks.due("the shortest is the first", three.answer(0, 1), 2);
+        Checks.due("DEPTH by it", three.game(0, 0), 3);
+        Checks.due("TREES by all three", three.game(0, 1), 3);
+        three.turns(2);
+        Checks.due("of two alike the least", three.answer(0, 1), 3);
+        Checks.due("DEPTH by that", three.game(0, 0), 5);
         HallOfClaims deep = Checks.told(EIGHT + "h>g>f>e>d>c>b>a;");
         for (int claim = 0; claim < 8; claim++) {
             boolean isWon = claim % 2 == 1;
@@ -350,6 +377,33 @@ public final class TermsTest {
         HallOfClaims doubt = Checks.told("*400;*000;b>a;");
         Checks.due("one that DEFEATS itself", doubt.game(0, 0), -9);
         Checks.due("its DEFEATER", doubt.game(1, 0), 1);
+    }
+
+    /**
+     * Two claims and one that stands alone answer the only DEFEATER, which answers the two again.
+     * PRO says the third at once, or one or both of the two ahead of it: 5 ways, for all numbers.
+     */
+    private static void gamesOfSaidOnes() {
+        for (int first = 0; first < 8; first++) {
+            HallOfClaims x = Checks.told(EIGHT);
+            int said = first;
+            int against = (first + 1) % 8;
+            int one = (first + 2) % 8;
+            int two = (first + 3) % 8;
+            int alone = (first + 4) % 8;
+            x.attacks(against, said);
+            x.attacks(one, against);
+            x.attacks(two, against);
+            x.attacks(against, one);
+            x.attacks(against, two);
+            x.attacks(alone, against);
+            Checks.due("TREES of " + first, x.game(said, 1), 5);
+            Checks.due("DEPTH of " + first, x.game(said, 0), 3);
+            Checks.due("ANSWER for " + first, x.answer(said, against), alone);
+            Checks.due("TREES of the one", x.game(one, 1), 2);
+            x.turns(alone);
+            Checks.due("not WON without the third", x.game(said, 1), 0);
+        }
     }
 
     /** PRO, who may not repeat, wins just for those that are IN. */
