@@ -390,8 +390,13 @@ public final class HallOfClaims {
             case 4: return now.mode;
             case 5: return numbers.length;
             case 6: return reader.letters.length;
-            default: return what >= 11 && what <= 16 ? refusals[what - 10] : NONE;
+            default: return refusalsAt(what - 10);
         }
+    }
+
+    /** How often the number below 0 by so much was answered. */
+    private int refusalsAt(int place) {
+        return place > 0 && place < refusals.length ? refusals[place] : NONE;
     }
 
     private int refuse(int number) {
@@ -951,7 +956,8 @@ public final class HallOfClaims {
         private void reckon(int said) {
             for (int last = 0; last < MOST_CLAIMS; last++) {
                 int place = placeOf(said, last);
-                if (Bytes.contains(said, last) && place < depths.length && place < ways.length) {
+                boolean isPlace = place >= 0 && place < depths.length && place < ways.length;
+                if (isPlace && Bytes.contains(said, last)) {
                     depths[place] = depthBehind(said, last);
                     ways[place] = waysBehind(said, last);
                 }

@@ -7,6 +7,7 @@ public final class PromisesTest {
     }
 
     public static void main(String[] args) {
+        readme();
         promise1();
         promise2();
         promise3Syntax();
@@ -35,6 +36,21 @@ public final class PromisesTest {
         promises28And29();
         promise30();
         Checks.end();
+    }
+
+    /** What README.md shows must be so. */
+    private static void readme() {
+        HallOfClaims hall = new HallOfClaims();
+        int a = hall.claims(0, 3, 0);
+        int b = hall.claims(0, 5, 1);
+        Checks.due("README: a", a, 0);
+        Checks.due("README: b", b, 1);
+        Checks.due("README: attacks", hall.attacks(a, b), 1);
+        Checks.due("README: label", hall.label(b), 0);
+        Checks.due("README: sets", hall.sets(3, 0), 1);
+        HallOfClaims told = new HallOfClaims();
+        Checks.due("README: hall", Checks.tell(told, "*030;*051;a>b;"), 3);
+        Checks.due("README: its label", told.label(1), 0);
     }
 
     private static void promise1() {
